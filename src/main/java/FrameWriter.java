@@ -92,6 +92,7 @@ public final class FrameWriter {
 
     public int make() {
         made = false;
+        sizes.followWays();
         int place = sizes.lookForFault();
         latestFault = sizes.found();
         if (latestFault != 0) {
@@ -239,7 +240,8 @@ public final class FrameWriter {
 
     /** The TYPES, and what KINDS are to one another by them. */
     private static final class Types {
-        private final int[] parents = new int[MOST_TYPES];
+        /** By two TYPES, the first times MOST_TYPES: the nearest one that both are, or come from. */
+        private final int[] shared = new int[MOST_TYPES * MOST_TYPES];
         private final boolean[] faces = new boolean[MOST_TYPES];
         private int count = 1;
 
@@ -252,7 +254,7 @@ public final class FrameWriter {
         }
 
         boolean isFace(int type) {
-            return has(type) && faces[type];
+            return type >= 0 && type < count && type < MOST_TYPES && faces[type];
         }
 
         int add(int parent, boolean face) {
@@ -262,18 +264,24 @@ public final class FrameWriter {
             if (count >= MOST_TYPES) {
                 return FULL;
             }
-            parents[count] = parent;
-            faces[count] = face;
+            int type = count;
+            faces[type] = face;
             count++;
-            return count - 1;
+            share(type, type, type);
+            for (int other = 0; other < type; other++) {
+                // No TYPE that was there before comes from this one: with each it has what its PARENT has.
+                share(type, other, nearest(parent, other));
+                share(other, type, nearest(parent, other));
+            }
+            return type;
         }
 
         boolean isThing(int kind) {
-            return kind >= THING && has(kind - THING);
+            return kind >= THING && kind < THING + count;
         }
 
         boolean isReference(int kind) {
-            return kind == NULL || isThing(kind);
+            return kind == NULL || (kind >= THING && kind < THING + count);
         }
 
         /** The KINDS that a caller may lay into one place by itself. */
@@ -293,7 +301,7 @@ public final class FrameWriter {
                 return false;
             }
             int wanted = two - THING;
-            return one == NULL || isFace(wanted) || comesFrom(one - THING, wanted);
+            return one == NULL || isFace(wanted) || nearest(one - THING, wanted) == wanted;
         }
 
         int join(int one, int two) {
@@ -309,24 +317,16 @@ public final class FrameWriter {
             return two == NULL ? one : THING + nearest(one - THING, two - THING);
         }
 
-        private int parentOf(int type) {
-            return has(type) ? parents[type] : 0;
-        }
-
-        private boolean comesFrom(int type, int other) {
-            int at = type;
-            for (int step = 0; step < MOST_TYPES && at != other; step++) {
-                at = parentOf(at);
-            }
-            return at == other;
-        }
-
         private int nearest(int one, int two) {
-            int at = one;
-            for (int step = 0; step < MOST_TYPES && !comesFrom(two, at); step++) {
-                at = parentOf(at);
+            int cell = one * MOST_TYPES + two;
+            return cell >= 0 && cell < shared.length ? shared[cell] : 0;
+        }
+
+        private void share(int one, int two, int type) {
+            int cell = one * MOST_TYPES + two;
+            if (cell >= 0 && cell < shared.length) {
+                shared[cell] = type;
             }
-            return at;
         }
     }
 
@@ -423,11 +423,11 @@ public final class FrameWriter {
         }
 
         int kindAt(int place) {
-            return holds(place) ? kinds[place] : TOP;
+            return place >= 0 && place < LOCALS + height && place < PLACES ? kinds[place] : TOP;
         }
 
         void put(int place, int kind) {
-            if (holds(place)) {
+            if (place >= 0 && place < LOCALS + height && place < PLACES) {
                 kinds[place] = kind;
             }
         }
@@ -439,9 +439,9 @@ public final class FrameWriter {
         }
 
         void push(int kind) {
-            if (height < PILE) {
+            if (height >= 0 && height < PILE) {
+                kinds[LOCALS + height] = kind;
                 height++;
-                put(LOCALS + height - 1, kind);
             }
         }
 
@@ -504,7 +504,7 @@ public final class FrameWriter {
             return changed;
         }
 
-        boolean standFor(Cells other, Types types) {
+        boolean allStandFor(Cells other, Types types) {
             boolean fine = height == other.height;
             for (int place = 0; place < PLACES && holds(place) && fine; place++) {
                 fine = types.standsFor(kinds[place], other.kindAt(place));
@@ -515,10 +515,10 @@ public final class FrameWriter {
         /** The place of a LONG that will be lain over leaves its other one without a meaning. */
         private void breakLong(int place) {
             int kind = kindAt(place);
-            if (kind == LONG) {
-                put(place + 1, TOP);
-            } else if (kind == HALF) {
-                put(place - 1, TOP);
+            if (kind == LONG && place + 1 < LOCALS) {
+                kinds[place + 1] = TOP;
+            } else if (kind == HALF && place > 0) {
+                kinds[place - 1] = TOP;
             }
         }
     }
@@ -581,7 +581,8 @@ public final class FrameWriter {
             }
         }
 
-        private void work(Cells cells, int at) {
+        /** Asked for only where the cells suit. */
+        void work(Cells cells, int at) {
             int op = code.opAt(at);
             int a = code.numberAt(at);
             int top = cells.fromTop(0);
@@ -646,11 +647,10 @@ public final class FrameWriter {
             return found;
         }
 
-        /** Where the FAULT is. */
+        /** Where the FAULT is, once the ways have been followed. */
         int lookForFault() {
             found = code.size() == 0 ? NO_INSTRUCTION : 0;
             int place = 0;
-            followWays();
             for (int at = 0; at < MOST_INSTRUCTIONS && found == 0; at++) {
                 found = faultAt(at);
                 place = at;
@@ -658,7 +658,7 @@ public final class FrameWriter {
             return place;
         }
 
-        private void followWays() {
+        void followWays() {
             for (int at = 0; at < MOST_INSTRUCTIONS; at++) {
                 seen[at] = 0;
                 waiting[at] = false;
@@ -680,9 +680,8 @@ public final class FrameWriter {
         }
 
         private void come(int at, int size) {
-            int all = seenAt(at) | 1 << size;
-            if (code.has(at) && all != seen[at]) {
-                seen[at] = all;
+            if (code.has(at) && (seen[at] & 1 << size) == 0) {
+                seen[at] |= 1 << size;
                 waiting[at] = true;
                 changed = true;
             }
@@ -843,20 +842,18 @@ public final class FrameWriter {
         }
 
         private void meet(int at, Cells brought) {
-            if (code.has(at) && bring(at, brought)) {
+            if (!code.has(at)) {
+                return;
+            }
+            boolean isNew = !reached[at];
+            if (isNew) {
+                reached[at] = true;
+                row(at).becomeLike(brought);
+            }
+            if (isNew || row(at).joinWith(brought, types)) {
                 waiting[at] = true;
                 changed = true;
             }
-        }
-
-        /** Whether the STATE became another by it. */
-        private boolean bring(int at, Cells brought) {
-            if (isReached(at)) {
-                return row(at).joinWith(brought, types);
-            }
-            reached[at] = true;
-            row(at).becomeLike(brought);
-            return true;
         }
     }
 
@@ -1089,7 +1086,7 @@ public final class FrameWriter {
             hand.becomeLike(beginning);
             atHand = true;
             for (int at = 0; at < code.size(); at++) {
-                if (!takesFrame(at) || (atHand && !passes(at))) {
+                if (!takesFrame(at) || (atHand && !(handlersFit(at) && passes(at)))) {
                     return at;
                 }
             }
@@ -1101,17 +1098,17 @@ public final class FrameWriter {
             if (k == NONE) {
                 return true;
             }
-            boolean fine = !atHand || hand.standFor(frames.given(k), types);
+            boolean fine = !atHand || hand.allStandFor(frames.given(k), types);
             hand.becomeLike(frames.given(k));
             atHand = true;
             return fine;
         }
 
         private boolean passes(int at) {
-            if (!machine.suits(hand, at) || !handlersFit(at)) {
+            if (!machine.suits(hand, at)) {
                 return false;
             }
-            machine.pass(hand, at);
+            machine.work(hand, at);
             atHand = code.goesOn(at);
             return !code.jumps(at) || fitsFrameOf(code.numberAt(at), hand);
         }
@@ -1129,7 +1126,7 @@ public final class FrameWriter {
 
         private boolean fitsFrameOf(int at, Cells cells) {
             int k = frames.numberAt(at);
-            return k != NONE && cells.standFor(frames.given(k), types);
+            return k != NONE && cells.allStandFor(frames.given(k), types);
         }
     }
 }

@@ -628,6 +628,16 @@ public final class PromiseTest {
         due("13: the first", x.judge(), 1);
         dueBytes("13: WRITTEN", x, 5, 252, 0, 1, 255, 2, 0, 1, 7, 1);
 
+        x = extend(withTypes(), INT, 0, END, 0, THROW, 0, THROW, 0);
+        x.handler(0, 1, 2, 2);
+        x.handler(0, 1, 3, 3);
+        dueFine("13: two HANDLERS of one INSTRUCTION", x, 2);
+        due("13: plant", x.plant(0, 8, 103), 102);
+        due("13: the first one's", x.judge(), 0);
+        due("13: plant", x.plant(0, 8, 102), 103);
+        due("13: plant", x.plant(1, 8, 102), 103);
+        due("13: the second one's", x.judge(), 0);
+
         x = program(GO, 2, INT, 0, END, 0, POP, 0);
         dueFine("13: passed over", x, 1);
         x = program(INT, 0, IF, 4, NULL, 0, GO, 5, NULL, 0, STORE, 0, LOAD, 0, THROW, 0);
