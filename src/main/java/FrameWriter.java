@@ -516,9 +516,9 @@ public final class FrameWriter {
         private void breakLong(int place) {
             int kind = kindAt(place);
             if (kind == LONG && place + 1 < LOCALS) {
-                kinds[place + 1] = TOP;
+                put(place + 1, TOP);
             } else if (kind == HALF && place > 0) {
-                kinds[place - 1] = TOP;
+                put(place - 1, TOP);
             }
         }
     }

@@ -1,5 +1,5 @@
 /** Whatever is called with whatever numbers: nothing is thrown but what out() promises, and refused calls change nothing. */
-public final class AnyCallsTest {
+final class AnyCallsTest extends Checks {
     private static final int[] ODD = {Integer.MIN_VALUE, Integer.MIN_VALUE + 1, -201, -101, -8, -3, -2, -1, 31, 32, 64, 99, 106, 107,
         108, 199, 200, 229, 230, 231, 1024, Integer.MAX_VALUE - 1, Integer.MAX_VALUE};
     private static long seed = 512L;
@@ -38,18 +38,6 @@ public final class AnyCallsTest {
         }
     }
 
-    private static String all(FrameWriter x) {
-        StringBuilder text = new StringBuilder();
-        for (int what = 0; what < 5; what++) {
-            text.append(x.told(what)).append(' ');
-        }
-        text.append(x.fault()).append(' ').append(x.packed()).append(' ').append(x.judge());
-        for (int i = 0; i < x.packed(); i++) {
-            text.append(' ').append(x.out(i));
-        }
-        return text.toString();
-    }
-
     private static boolean outIsRight(FrameWriter x, int i) {
         boolean there = i >= 0 && i < x.packed();
         try {
@@ -60,28 +48,44 @@ public final class AnyCallsTest {
         }
     }
 
-    public static void main(String[] args) {
-        int wrong = 0;
-        for (int run = 0; run < 4000; run++) {
-            FrameWriter x = new FrameWriter();
-            for (int n = 0; n < 120; n++) {
-                int which = pick(15);
-                String before = all(x);
-                int answer = call(x, which);
-                boolean mayChange = which < 7 && answer != FrameWriter.BAD && answer != FrameWriter.FULL;
-                if (!mayChange && !all(x).equals(before)) {
-                    wrong++;
-                    System.out.println("call " + which + " answered " + answer + " and changed " + before + " to " + all(x));
-                }
-                if (!outIsRight(x, number(40))) {
-                    wrong++;
-                    System.out.println("out() is not as due");
+    /** Half of the objects begin with a program that has STATES and FRAMES. */
+    private static FrameWriter begun() {
+        if (pick(2) == 0) {
+            return new FrameWriter();
+        }
+        FrameWriter x = withLocals(0, 1, 1, 102, 6, 2);
+        extend(x, INT, 0, IF, 0, LOAD, 1, THROW, 0, STORE, 2, END, 0);
+        x.handler(2, 4, 4, 3);
+        due("make()", x.make(), 2);
+        return x;
+    }
+
+    /** All is asked around a few calls alone, as it takes some hundred calls and an object is used for 512. */
+    private static void run() {
+        FrameWriter x = begun();
+        for (int used = 0; used < 240; used += 3) {
+            boolean asked = pick(40) == 0;
+            String before = asked ? all(x) : "";
+            int which = pick(15);
+            int answer = call(x, which);
+            boolean mayChange = which < 7 && answer != BAD && answer != FULL;
+            if (asked) {
+                String behind = all(x);
+                used += 200;
+                if (!mayChange && !behind.equals(before)) {
+                    fail("call " + which + " answered " + answer + " and changed " + before + " to " + behind);
                 }
             }
+            if (!outIsRight(x, number(40))) {
+                fail("out() is not as due");
+            }
         }
-        System.out.println(wrong == 0 ? "any calls: as due" : wrong + " calls were not as due");
-        if (wrong != 0) {
-            System.exit(1);
+    }
+
+    public static void main(String[] args) {
+        for (int run = 0; run < 12000; run++) {
+            run();
         }
+        end("any calls");
     }
 }

@@ -146,6 +146,9 @@ final class KindSentencesTest extends Checks {
     static void nothingElseIsAKind() {
         FrameWriter x = withTypes();
         for (int kind = -300; kind <= 1200; kind++) {
+            if (kind % 200 == 0) {
+                x = withTypes();
+            }
             boolean is = kind >= 0 && kind <= 4 || kind >= 100 && kind <= 105 || kind >= 200 && kind <= 229;
             due("joined(" + kind + ") with itself", x.joined(kind, kind), is ? kind : BAD);
             due("goes(" + kind + ") for itself", x.goes(kind, kind), is ? 1 : BAD);

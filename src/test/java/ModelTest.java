@@ -565,6 +565,9 @@ public final class ModelTest {
             }
         }
         due("told(4)", m, x.told(4), reached);
+    }
+
+    private static void compareFrames(Model m, FrameWriter x) {
         for (int k = 0; k <= m.frames.size(); k++) {
             due("frame(" + k + ")", m, x.frame(k), k < m.frames.size() ? m.frames.get(k) : FrameWriter.NONE);
         }
@@ -572,7 +575,8 @@ public final class ModelTest {
 
     private static void compareBytes(Model m, FrameWriter x) {
         List<Integer> got = new ArrayList<>();
-        for (int i = 0; i < x.packed(); i++) {
+        int length = x.packed();
+        for (int i = 0; i < length; i++) {
             got.add(x.out(i));
         }
         String complaint = m.read(got);
@@ -596,13 +600,23 @@ public final class ModelTest {
                 frame.set(place, kind);
             }
             due("judge()", m, x.judge(), m.judge());
+            if (!bad) {
+                int at = m.frames.get(k);
+                due("state(" + at + ", " + place + ") behind plant()", m, x.state(at, place), m.states.get(at).get(place));
+            }
             if (!bad && pick(3) > 0 && old < 200) {
                 x.plant(k, place, old);
                 frame.set(place, old);
             }
         }
-        compareStates(m, x);
         compareBytes(m, x);
+    }
+
+    /** The answer is looked at, and an object is used for 512 calls at most: so each comparison has one of its own. */
+    private static FrameWriter made(Model m, int want) {
+        FrameWriter x = told(m);
+        due("make()", m, x.make(), want);
+        return x;
     }
 
     public static void main(String[] args) {
@@ -610,13 +624,15 @@ public final class ModelTest {
         for (int n = 0; n < PROGRAMS; n++) {
             Model m = new Model();
             fill(m);
-            FrameWriter x = told(m);
-            due("make()", m, x.make(), m.make());
-            due("fault()", m, x.fault(), m.fault);
+            int want = m.make();
             faults[m.fault]++;
-            compareStates(m, x);
+            compareStates(m, made(m, want));
+            FrameWriter x = made(m, want);
+            due("fault()", m, x.fault(), m.fault);
+            compareFrames(m, x);
             if (m.fault == 0) {
-                comparePlants(m, x);
+                compareBytes(m, x);
+                comparePlants(m, made(m, want));
             } else {
                 due("packed()", m, x.packed(), FrameWriter.NONE);
                 due("judge()", m, x.judge(), FrameWriter.BAD);

@@ -656,6 +656,8 @@ public final class PromiseTest {
         int[] good = {0, 1, 2, 3, 4, 100, 101, 102, 103, 104, 105, 200, 229};
         int[] bad = {-1, 5, 99, 106, 199, 230, 1000, Integer.MIN_VALUE, Integer.MAX_VALUE};
         for (int k : good) {
+            // One object is used for 512 calls at most.
+            x = withTypes();
             due("14: joined(" + k + ") with itself", x.joined(k, k), k);
             due("15: goes(" + k + ") for itself", x.goes(k, k), 1);
             due("15: goes(" + k + ") for TOP", x.goes(k, 0), 1);

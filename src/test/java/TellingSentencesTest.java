@@ -452,7 +452,7 @@ final class TellingSentencesTest extends Checks {
     @Sentence(of = "of all", says = "An object is used for at most 512 calls after it has been made")
     static void the512thCallIsAnswered() {
         FrameWriter x = program(INT, 0, STORE, 0, GO, 3, END, 0);
-        for (int call = 5; call <= 511; call += 3) {
+        for (int call = 6; call <= 510; call += 3) {
             due("make() as call " + call, x.make(), 1);
             due("judge() as call " + (call + 1), x.judge(), NONE);
             due("local() as call " + (call + 2), x.local(1, call % 2), 1);

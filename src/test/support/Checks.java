@@ -145,23 +145,29 @@ abstract class Checks {
         return x;
     }
 
-    /** Everything that can be asked without changing it. */
+    /** Everything that can be asked without changing it, in few calls: an object is used for 512 of them. */
     static String all(FrameWriter x) {
         StringBuilder text = new StringBuilder();
         for (int what = 0; what < 5; what++) {
             text.append(x.told(what)).append(' ');
         }
         text.append(x.fault()).append(' ').append(x.packed()).append(' ').append(x.judge()).append(" bytes");
-        for (int i = 0; i < x.packed(); i++) {
+        int bytes = x.packed();
+        for (int i = 0; i < bytes; i++) {
             text.append(' ').append(x.out(i));
         }
-        for (int k = 0; k <= x.told(3); k++) {
+        int frames = x.told(3);
+        for (int k = 0; k <= frames; k++) {
             text.append(" frame ").append(x.frame(k));
         }
-        for (int at = 0; at < x.told(1) && x.packed() != NONE; at++) {
+        int instructions = bytes == NONE ? 0 : x.told(1);
+        for (int at = 0; at < instructions; at++) {
             text.append(" state");
-            for (int place = 0; place < 14; place++) {
-                text.append(' ').append(x.state(at, place));
+            boolean there = true;
+            for (int place = 0; place < 14 && there; place++) {
+                int kind = x.state(at, place);
+                there = kind != NONE;
+                text.append(' ').append(kind);
             }
         }
         return text.toString();
