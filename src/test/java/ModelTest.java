@@ -442,8 +442,7 @@ public final class ModelTest {
         }
     }
 
-    /** A program that often has no FAULT: short pieces that leave THE PILE as it was, and jumps to where pieces begin. */
-    private static void fill(Model m) {
+    private static void fillBeginning(Model m) {
         int types = pick(8);
         for (int t = 0; t < types; t++) {
             boolean face = pick(4) == 0;
@@ -458,6 +457,11 @@ public final class ModelTest {
             int kind = kinds[pick(6)];
             m.lay(m.beginning, pick(kind == 2 ? 7 : 8), kind);
         }
+    }
+
+    /** A program that often has no FAULT: short pieces that leave THE PILE as it was, and jumps to where pieces begin. */
+    private static void fillByPieces(Model m) {
+        fillBeginning(m);
         List<Integer> starts = new ArrayList<>();
         int length = 2 + pick(28);
         while (m.ops.size() < length) {
@@ -484,6 +488,61 @@ public final class ModelTest {
         if (pick(4) == 0) {
             m.ops.set(pick(m.ops.size()), anyOp(m));
         }
+    }
+
+    /** Any OPS that suit what lies there if one goes straight on; jumps, HANDLERS to wherever THE PILE is as high. */
+    private static void fillByOps(Model m) {
+        fillBeginning(m);
+        int length = 3 + pick(28);
+        List<List<Integer>> ahead = new ArrayList<>();
+        List<Integer> here = m.beginning;
+        while (m.ops.size() < length) {
+            ahead.add(here);
+            here = addSuited(m, ahead);
+        }
+        m.ops.set(length - 1, new int[] {19, 0});
+        for (int at = 0; at < length; at++) {
+            int[] op = m.ops.get(at);
+            if (op[0] >= 16 && op[0] <= 18) {
+                op[1] = anyOfHeight(ahead, ahead.get(at).size() - 8 - m.takes(at));
+            }
+        }
+        for (int h = pick(4); h > 0; h--) {
+            int from = pick(length);
+            m.handlers.add(new int[] {from, from + 1 + pick(30 - from), anyOfHeight(ahead, 1), pick(m.parents.size())});
+        }
+    }
+
+    /** What lies behind an OP that suits; behind one that does not go on, what may come there from elsewhere. */
+    private static List<Integer> addSuited(Model m, List<List<Integer>> ahead) {
+        int at = m.ops.size();
+        List<Integer> here = ahead.get(at);
+        List<Integer> elsewhere = ahead.get(pick(at + 1));
+        for (int tries = 0; tries < 30; tries++) {
+            int[] op = anyOp(m);
+            if (op[0] >= 18 && pick(4) > 0) {
+                continue; // else few INSTRUCTIONS would be REACHED
+            }
+            m.ops.add(op);
+            int left = here.size() - 8 - m.takes(at);
+            List<Integer> behind = left >= 0 && left + m.gives(at) <= 6 ? m.step(at, here) : null;
+            if (behind != null) {
+                return op[0] < 18 ? behind : pick(2) == 0 ? elsewhere : m.caught(elsewhere, pick(m.parents.size()));
+            }
+            m.ops.remove(at);
+        }
+        m.ops.add(new int[] {19, 0});
+        return elsewhere;
+    }
+
+    private static int anyOfHeight(List<List<Integer>> ahead, int height) {
+        List<Integer> found = new ArrayList<>();
+        for (int at = 0; at < ahead.size(); at++) {
+            if (ahead.get(at).size() == 8 + height) {
+                found.add(at);
+            }
+        }
+        return found.isEmpty() || pick(40) == 0 ? pick(30) : found.get(pick(found.size()));
     }
 
     private static void add(Model m, int... pairs) {
@@ -623,7 +682,11 @@ public final class ModelTest {
         int[] faults = new int[5];
         for (int n = 0; n < PROGRAMS; n++) {
             Model m = new Model();
-            fill(m);
+            if (n % 2 == 0) {
+                fillByPieces(m);
+            } else {
+                fillByOps(m);
+            }
             int want = m.make();
             faults[m.fault]++;
             compareStates(m, made(m, want));

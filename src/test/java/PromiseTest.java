@@ -1,93 +1,7 @@
 import java.util.Arrays;
 
 /** For each promise of the document: ordinary inputs, the edges that it names, wrong inputs. */
-public final class PromiseTest {
-    private static final int NONE = FrameWriter.NONE, BAD = FrameWriter.BAD, FULL = FrameWriter.FULL;
-    private static final int INT = 0, LONG = 1, NULL = 2, LOAD = 3, LOAD2 = 4, STORE = 5, STORE2 = 6, POP = 7, POP2 = 8;
-    private static final int DUP = 9, ADD = 10, ADD2 = 11, BEGIN = 12, MAKE = 13, CAST = 14, USE = 15, IF = 16;
-    private static final int SAME = 17, GO = 18, END = 19, THROW = 20;
-    private static int wrong = 0;
-
-    private static void due(String what, int got, int want) {
-        if (got != want) {
-            wrong++;
-            System.out.println(what + " answered " + got + ", due is " + want);
-        }
-    }
-
-    private static void dueBytes(String what, FrameWriter x, int... want) {
-        int[] got = new int[Math.max(0, x.packed())];
-        for (int i = 0; i < got.length; i++) {
-            got[i] = x.out(i);
-        }
-        if (!Arrays.equals(got, want)) {
-            wrong++;
-            System.out.println(what + " wrote " + Arrays.toString(got) + ", due is " + Arrays.toString(want));
-        }
-    }
-
-    /** The 14 places of a STATE, NONE where THE PILE is not so high. */
-    private static void dueState(String what, FrameWriter x, int at, int... want) {
-        int[] got = new int[14];
-        for (int place = 0; place < 14; place++) {
-            got[place] = x.state(at, place);
-        }
-        int[] whole = new int[14];
-        Arrays.fill(whole, 8, 14, NONE);
-        System.arraycopy(want, 0, whole, 0, want.length);
-        if (!Arrays.equals(got, whole)) {
-            wrong++;
-            System.out.println(what + ": STATE " + Arrays.toString(got) + ", due is " + Arrays.toString(whole));
-        }
-    }
-
-    private static void dueThrow(String what, FrameWriter x, int i) {
-        try {
-            x.out(i);
-        } catch (ArrayIndexOutOfBoundsException e) {
-            return;
-        }
-        wrong++;
-        System.out.println(what + ": out(" + i + ") threw nothing");
-    }
-
-    /** Pairs of OP and a. */
-    private static FrameWriter program(int... pairs) {
-        return extend(new FrameWriter(), pairs);
-    }
-
-    private static FrameWriter extend(FrameWriter x, int... pairs) {
-        for (int i = 0; i + 1 < pairs.length; i += 2) {
-            due("op(" + pairs[i] + ", " + pairs[i + 1] + ")", x.op(pairs[i], pairs[i + 1]), i / 2);
-        }
-        return x;
-    }
-
-    private static void dueFault(String what, FrameWriter x, int fault, int place) {
-        due(what + ": make()", x.make(), -10 - place);
-        due(what + ": fault()", x.fault(), fault);
-        due(what + ": told(4)", x.told(4), 0);
-        due(what + ": packed()", x.packed(), NONE);
-        due(what + ": state(0, 0)", x.state(0, 0), NONE);
-    }
-
-    private static void dueFine(String what, FrameWriter x, int frames) {
-        due(what + ": make()", x.make(), frames);
-        due(what + ": fault()", x.fault(), 0);
-        due(what + ": judge()", x.judge(), NONE);
-    }
-
-    /** TYPES: 1 of 0, 2 and 3 of 1, 4 a FACE, 5 of 3. */
-    private static FrameWriter withTypes() {
-        FrameWriter x = new FrameWriter();
-        x.type(0, false);
-        x.type(1, false);
-        x.type(1, false);
-        x.type(0, true);
-        due("the last TYPE", x.type(3, false), 5);
-        return x;
-    }
-
+final class PromiseTest extends Checks {
     private static void newObject() {
         FrameWriter x = new FrameWriter();
         due("1: TYPES", x.told(0), 1);
@@ -702,7 +616,25 @@ public final class PromiseTest {
         due("16: REACHED are ended", x.told(4), 0);
     }
 
+    /** The example of README.md, so that it stays true. */
+    private static void readme() {
+        FrameWriter x = new FrameWriter();
+        int shape = x.type(0, false);
+        due("README: type", shape, 1);
+        due("README: local", x.local(0, 100 + shape), 1);
+        extend(x, LOAD, 0, USE, shape, INT, 0, IF, 0, END, 0);
+        due("README: make", x.make(), 1);
+        due("README: frame", x.frame(0), 0);
+        due("README: state", x.state(1, 8), 101);
+        due("README: packed", x.packed(), 1);
+        due("README: out", x.out(0), 0);
+        due("README: judge", x.judge(), NONE);
+        due("README: plant", x.plant(0, 0, 100), 101);
+        due("README: judge of the planted", x.judge(), 1);
+    }
+
     public static void main(String[] args) {
+        readme();
         newObject();
         types();
         locals();
@@ -718,9 +650,6 @@ public final class PromiseTest {
         judges();
         kinds();
         told();
-        System.out.println(wrong == 0 ? "all promises' answers are as due" : wrong + " answers are not as due");
-        if (wrong != 0) {
-            System.exit(1);
-        }
+        end("the promises");
     }
 }
